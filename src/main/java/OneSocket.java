@@ -509,24 +509,20 @@ public final class OneSocket {
             // Each item takes letters, so there are fewer of them than letters.
             for (int items = 0; items <= LETTERS; items++) {
                 next();
-                if (token == END) {
-                    return items;
+                boolean good = false;
+                switch (token) {
+                    case END: return items;
+                    case 't': good = to.phones < PHONES && readPhone(to); break;
+                    case 'h': good = !holesTold && readHoles(to); break;
+                    case 'c': good = to.calls < CALLS && readCall(to); break;
+                    case 'd': good = to.darks < DARKS && readDark(to); break;
+                    default: break;
                 }
-                if (!readItem(to)) {
+                if (!good) {
                     return WRONG;
                 }
             }
             return WRONG;
-        }
-
-        private boolean readItem(Told to) {
-            switch (token) {
-                case 't': return to.phones < PHONES && readPhone(to);
-                case 'h': return !holesTold && readHoles(to);
-                case 'c': return to.calls < CALLS && readCall(to);
-                case 'd': return to.darks < DARKS && readDark(to);
-                default: return false;
-            }
         }
 
         private boolean readPhone(Told to) {
