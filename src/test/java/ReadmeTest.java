@@ -1,5 +1,6 @@
 import java.io.IOException;
 import java.lang.reflect.Method;
+import java.lang.reflect.Modifier;
 import java.net.URL;
 import java.net.URLClassLoader;
 import java.nio.file.Files;
@@ -23,13 +24,13 @@ public final class ReadmeTest {
     private static final Pattern SHOWN = Pattern.compile("^([xy]\\.(\\w+)\\(.*\\));\\s+// (-?\\d+): .*$");
     private static final Pattern ROW = Pattern.compile("(?m)^\\| `([^`]+)` \\| (.*) \\|(.*)\\|$");
     private static final Pattern LIMIT = Pattern.compile("([A-Z]) (\\d+) \\.\\. (\\d+)");
-    /** What stands ahead of an item so that it can stand, each with five telephones for K. */
+    /** Stands ahead of an item other than t, so that each K may be told. */
     private static final String FIVE = "t9 1 0;t9 1 0;t9 1 0;t9 1 0;t9 1 0;";
 
     private static Set<String> face() {
         Set<String> names = new TreeSet<>();
         for (Method m : OneSocket.class.getDeclaredMethods()) {
-            if (java.lang.reflect.Modifier.isPublic(m.getModifiers())) {
+            if (Modifier.isPublic(m.getModifiers())) {
                 names.add(m.getName());
             }
         }
